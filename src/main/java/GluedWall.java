@@ -829,11 +829,13 @@ public final class GluedWall {
         private int holdIfFit(Wall wall, int brick) {
             int sum = 0;
             for (int side = 0; side < SIDES; side++) {
-                int glue = wall.glueOn(brick, side);
-                if (Wall.areAtOdds(glue, facing[side])) {
-                    return NONE;
+                if (facing[side] != NONE) {
+                    int glue = wall.glueOn(brick, side);
+                    if (Wall.areAtOdds(glue, facing[side])) {
+                        return NONE;
+                    }
+                    sum += wall.strengthBetween(glue, facing[side]);
                 }
-                sum += wall.strengthBetween(glue, facing[side]);
             }
             return sum;
         }

@@ -9,6 +9,7 @@ public final class CountsTest {
         test.errors();
         test.inRow();
         test.weakest();
+        test.firstPlace();
         test.meanHold();
         test.standing();
         test.accounts();
@@ -96,6 +97,29 @@ public final class CountsTest {
         check.due("hold", 12, () -> wall.hold(19));
         check.due("of several the lowest", 12, () -> wall.weakest(0));
         check.due("no bricks", Check.NONE_SUCH, () -> new GluedWall().weakest(0));
+    }
+
+    /** The first place counts in all of them, and glue 6 as all the others. */
+    private void firstPlace() {
+        GluedWall wall = new GluedWall();
+        Check.run(wall, "k6666;k1611;n1;l0:0;l1:0;l7:1***");
+        check.due("errors", 0, wall::errors);
+        check.due("holds", 4, () -> wall.account(6));
+        check.due("pairs", 2, () -> wall.account(7));
+        check.due("row", 2, () -> wall.inRow(0, false));
+        check.due("column", 2, () -> wall.inRow(0, true));
+        check.due("hold of glue 6", 2, () -> wall.hold(0));
+        check.due("again", 2, () -> wall.holdAgain(0));
+        check.due("the first has the most hold", 0, () -> wall.weakest(2));
+        check.due("another at odds with it", 4, () -> Check.run(wall, "t7;l8:1***;l7:1*;s63"));
+        check.due("one error", 1, wall::errors);
+        check.due("at the first", 1, () -> wall.errorsAt(0));
+        check.due("at the other", 1, () -> wall.errorsAt(7));
+        check.due("not between them", 0, () -> wall.errorsAt(1));
+        GluedWall alone = new GluedWall();
+        Check.run(alone, "k0000;l0:0");
+        check.due("alone and without hold", 0, () -> alone.weakest(0));
+        check.due("no second", Check.NONE_SUCH, () -> alone.weakest(1));
     }
 
     private void meanHold() {

@@ -9,6 +9,7 @@ public final class GrowingTest {
         test.grow();
         test.growRefused();
         test.lowestPlace();
+        test.firstPlace();
         test.lowerPlaceOpens();
         test.mostHold();
         test.lowestKindAndTurn();
@@ -78,6 +79,26 @@ public final class GrowingTest {
         check.due("then to the right", 4, wall::nextPlace);
     }
 
+    private void firstPlace() {
+        GluedWall wall = new GluedWall();
+        Check.run(wall, "k2000;k0200;k0120;k1111;k1333;n1;l8:3;l1:3");
+        check.due("place", 0, wall::nextPlace);
+        check.due("brick", 4 * 2, wall::nextBrick);
+        check.due("choices to the right", 1 + 4 + 1, () -> wall.choices(2));
+        wall.grow(1);
+        check.due("it grew there", 2, () -> wall.brickAt(0, false));
+        GluedWall late = new GluedWall();
+        Check.run(late, "k2222;k2222;k2222;k0013;k1000;k0111;n1;l7:4");
+        check.due("a high kind, turned thrice", 4 * 3 + 0, late::nextBrick);
+        Check.run(late, "t7;l17:4");
+        check.due("place", 10, late::nextPlace);
+        GluedWall last = new GluedWall();
+        Check.run(last, "k2222;k3333;k4444;k5555;k2222;k3333;k4444;k1000;n1;l17:7");
+        check.due("the last kind, turned twice", 4 * 7 + 2, last::nextBrick);
+        Check.run(last, "t17;l17:7*");
+        check.due("the last kind, turned thrice", 4 * 7 + 3, last::nextBrick);
+    }
+
     /** A brick that grows can open a place above it or to its left that was closed before. */
     private void lowerPlaceOpens() {
         GluedWall wall = new GluedWall();
@@ -142,29 +163,24 @@ public final class GrowingTest {
         check.due("not turned", 4 * 1, wall::nextBrick);
     }
 
+    /** Between glue 1 at 8 and glue 2 at 10 the bricks of one glue hold, but only the one of both makes no error. */
     private void noErrors() {
         GluedWall wall = new GluedWall();
-        wall.kind(1, 2, 1, 1);
-        wall.need(1);
-        wall.lay(0, 0, 1);
-        check.due("place", 1, wall::nextPlace);
-        check.due("brick", 0, wall::nextBrick);
+        Check.run(wall, "k1111;k2222;k0201;n1;l8:0;l15:0;l16:2;l17:1;l10:1");
+        check.due("glue 1 would hold", 1, () -> wall.wouldHold(9, 0, 0));
+        check.due("glue 2 would hold", 1, () -> wall.wouldHold(9, 1, 0));
+        check.due("both would", 2, () -> wall.wouldHold(9, 2, 0));
+        check.due("one choice", 1, () -> wall.choices(9));
+        check.due("some grow", true, () -> wall.grow(42) > 0);
+        check.due("it is the one of both", 2, () -> wall.brickAt(9, false));
+        check.due("no errors", 0, wall::errors);
         GluedWall other = new GluedWall();
-        other.kind(1, 1, 1, 1);
-        other.kind(2, 2, 2, 2);
-        other.kind(1, 2, 2, 1);
-        other.need(1);
-        other.lay(17, 2, 0);
-        other.lay(18, 2, 2);
-        check.due("error at 18", 0, other::errors);
-        other.lay(10, 0, 0);
-        other.lay(11, 1, 0);
-        check.due("an error by lay", 1, other::errors);
-        check.due("would hold but err", 1, () -> other.wouldHold(9, 0, 0));
-        check.due("grows without errors", 1, () -> {
-            other.grow(42);
-            return other.errors();
-        });
+        Check.run(other, "k1111;k2222;k0201;n1;l8:0;l15:0;l16:2;l17:1;l10:1");
+        Check.run(other, "l9:0;g42");
+        check.due("an error that is laid stays the only one", 1, other::errors);
+        GluedWall weak = new GluedWall();
+        Check.run(weak, "k1111;k2222;k0201;n1;l0:0;l7:0;l8:2;l9:1;l2:1;s20");
+        check.due("without strength a glue still errs", 1, () -> weak.choices(1));
     }
 
     private void glueZeroIsNoError() {

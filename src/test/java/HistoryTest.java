@@ -1,3 +1,6 @@
+import java.util.List;
+import java.util.function.Consumer;
+
 /** Promises 36 to 38. */
 public final class HistoryTest {
     private final Check check = new Check();
@@ -5,12 +8,14 @@ public final class HistoryTest {
     public static void main(String[] args) {
         HistoryTest test = new HistoryTest();
         test.undoEach();
+        test.undoBringsAllBack();
         test.undoAtMostEight();
         test.undoAndGoOn();
         test.undoLeaves();
         test.saveAndRestore();
         test.restoreForgets();
         test.snapshotIsItsOwn();
+        test.allKindsAreSaved();
         test.check.end();
     }
 
@@ -51,6 +56,37 @@ public final class HistoryTest {
         check.due("kind", 0, wall::undo);
         check.due("no kind", Check.BOUNDS, () -> wall.glueOf(0, 0, 0));
         check.due("a kind again", 0, () -> wall.kind(2, 2, 2, 2));
+    }
+
+    /** Each change is undone beside changes of all other sorts, and then made for good. */
+    private void undoBringsAllBack() {
+        GluedWall wall = new GluedWall();
+        List<Consumer<GluedWall>> changes = List.of(w -> w.kind(1, 2, 3, 4), w -> w.need(1), w -> w.kind(6, 6, 6, 6),
+                w -> w.strength(6, 3), w -> w.lay(8, 1, 1), w -> w.kind(2, 2, 2, 2), w -> w.lay(9, 1, 0),
+                w -> Check.run(w, "k1111;s62;n2;l7:1**;g2;t7"), w -> w.grow(3), w -> w.takeOut(9),
+                w -> w.strength(6, 0), w -> w.need(6), w -> w.takeOut(8), w -> w.lay(41, 3, 2), w -> w.kind(0, 0, 0, 1));
+        for (int i = 0; i < changes.size(); i++) {
+            String before = summary(wall);
+            changes.get(i).accept(wall);
+            check.same("change " + i + " shows", false, before.equals(summary(wall)));
+            wall.undo();
+            check.same("change " + i + " undone", before, summary(wall));
+            changes.get(i).accept(wall);
+        }
+    }
+
+    private static String summary(GluedWall wall) {
+        StringBuilder text = new StringBuilder(Check.wholeWall(wall)).append(Check.answer(wall::seed));
+        for (int number = 0; number < 8; number++) {
+            int what = number;
+            text.append(' ').append(wall.account(what));
+            for (int side = 0; side < 4; side++) {
+                int which = side;
+                text.append(Check.answer(() -> wall.glueOf(what, 0, which)));
+            }
+            text.append(Check.answer(() -> wall.strengthOf(what)));
+        }
+        return text.toString();
     }
 
     private void undoAtMostEight() {
@@ -160,6 +196,19 @@ public final class HistoryTest {
         wall.grow(3);
         check.due("undo after restore", 0, wall::undo);
         check.due("bricks", 1, () -> wall.account(1));
+    }
+
+    private void allKindsAreSaved() {
+        GluedWall wall = new GluedWall();
+        Check.run(wall, "k1234;k2345;k3456;k4561");
+        Check.run(wall, "k5612;k6123;k1010;k0202");
+        wall.save();
+        String saved = summary(wall);
+        wall.undo();
+        wall.undo();
+        Check.run(wall, "k6666;k6666;k6666;k6666;k6666;k6666;k6666;k6666;s53;n4");
+        wall.restore();
+        check.same("restored", saved, summary(wall));
     }
 
     private void snapshotIsItsOwn() {

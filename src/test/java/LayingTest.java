@@ -270,7 +270,6 @@ public final class LayingTest {
         for (int[] pair : due) {
             check.due("falls " + pair[0], pair[1], () -> wall.falls(pair[0]));
         }
-        wall.kind(2, 2, 2, 2);
         wall.strength(1, 0);
         check.due("those that do not stand do not count", 0, () -> wall.falls(14));
         check.due("nor does one that does not stand", 0, () -> wall.falls(15));
