@@ -28,6 +28,7 @@ public final class EdgesOfAccountsTest {
         test.changes();
         test.noChanges();
         test.latestEight();
+        test.moreThanEight();
         test.notOfThem();
         test.meanHold();
         test.standing();
@@ -36,6 +37,7 @@ public final class EdgesOfAccountsTest {
         test.accountsOfChangesAndText();
         test.noAccount();
         test.undo();
+        test.undoOfManyCalls();
         test.undoOfNothing();
         test.save();
         test.restore();
@@ -44,7 +46,8 @@ public final class EdgesOfAccountsTest {
     }
 
     private void changes() {
-        String sorts = "What can be undone are the successful calls of kind, lay, takeOut, grow, strength, need and commands.";
+        String sorts = "What can be undone are the successful calls of kind, lay, takeOut, grow, strength, need and "
+                + "commands.";
         edges.edge("Changes", sorts, "each sort, one by one", """
                 kind(1, 1, 1, 1) = 0
                 account(8) = 1
@@ -93,7 +96,8 @@ public final class EdgesOfAccountsTest {
     }
 
     private void noChanges() {
-        String sorts = "What can be undone are the successful calls of kind, lay, takeOut, grow, strength, need and commands.";
+        String sorts = "What can be undone are the successful calls of kind, lay, takeOut, grow, strength, need and "
+                + "commands.";
         edges.edge("Changes", sorts, "none that is refused", """
                 kind(7, 0, 0, 0) refused 1 0 0
                 lay(0, 0, 0) refused 3 0 0
@@ -141,6 +145,10 @@ public final class EdgesOfAccountsTest {
                 undo() throws IllegalStateException
                 account(2) = 1
                 """);
+    }
+
+    private void moreThanEight() {
+        String kept = "What there was before each of the latest 8 is kept;";
         edges.edge("Changes", kept, "eight after some were undone", EIGHT + """
                 undo() = 7
                 undo() = 6
@@ -332,7 +340,8 @@ public final class EdgesOfAccountsTest {
     }
 
     private void accountsSoFar() {
-        edges.edge("Promise 35", "3 for the bricks laid so far, by lay and by growing,", "taking out and refusals do not count", FULL + """
+        edges.edge("Promise 35", "3 for the bricks laid so far, by lay and by growing,",
+                "taking out and refusals do not count", FULL + """
                 account(3) = 42
                 takeOut(41) = 0
                 account(3) = 42
@@ -367,7 +376,8 @@ public final class EdgesOfAccountsTest {
     }
 
     private void accountsOfChangesAndText() {
-        edges.edge("Promise 35", "8 for the changes that can be undone,", "none, eight, one more", "account(8) = 0\n" + EIGHT + """
+        edges.edge("Promise 35", "8 for the changes that can be undone,",
+                "none, eight, one more", "account(8) = 0\n" + EIGHT + """
                 account(8) = 8
                 need(1) = 6
                 account(8) = 8
@@ -408,6 +418,37 @@ public final class EdgesOfAccountsTest {
                 account(1) = 0
                 account(2) = 1
                 """);
+        edges.edge("Promise 36", latest, "each sort alone, not what came just before it", """
+                kind(1, 1, 1, 1) = 0
+                need(1) = 2
+                undo() = 1
+                account(0) = 1
+                need(1) = 2
+                strength(1, 3) = 1
+                undo() = 2
+                account(2) = 1
+                strength(1, 3) = 1
+                lay(17, 0, 0) = 0
+                undo() = 3
+                strengthOf(1) = 3
+                lay(17, 0, 0) = 0
+                grow(1) = 1
+                undo() = 4
+                seed() = 17
+                grow(1) = 1
+                takeOut(10) = 0
+                undo() = 5
+                brickAt(10, false) = 0
+                takeOut(10) = 0
+                kind(2, 2, 2, 2) = 1
+                undo() = 6
+                account(5) = 1
+                kind(2, 2, 2, 2) = 1
+                text "n2;k3333" = 2
+                undo() = 7
+                account(0) = 2
+                account(2) = 1
+                """);
         edges.edge("Promise 36", latest, "a seed that was taken out is the seed again", EASY + """
                 lay(17, 0, 0) = 0
                 takeOut(17) = 0
@@ -417,6 +458,10 @@ public final class EdgesOfAccountsTest {
                 undo() = 3
                 seed() = 17
                 """);
+    }
+
+    private void undoOfManyCalls() {
+        String latest = "Undoes the latest call that can be undone.";
         edges.edge("Promise 36", latest, "all commands of a text at once", """
                 text "k1111;n1;l17:0;g41;s63" = 5
                 undo() = 0
@@ -477,7 +522,8 @@ public final class EdgesOfAccountsTest {
                 restore() = 2
                 brickAt(18, false) = 0
                 """);
-        edges.edge("Promise 37", "Saves all that can be undone,", "kinds, strengths, need, bricks, seed and what was counted", EASY + """
+        edges.edge("Promise 37", "Saves all that can be undone,",
+                "kinds, strengths, need, bricks, seed and what was counted", EASY + """
                 strength(6, 3) = 1
                 lay(41, 0, 3) = 0
                 grow(1) = 1
@@ -497,6 +543,16 @@ public final class EdgesOfAccountsTest {
                 brickAt(41, true) = 3
                 brickAt(0, false) throws NoSuchElementException
                 """);
+        edges.edge("Promise 37", "Saves all that can be undone,", "the eighth kind, where another one is told then", """
+                7 times kind(0, 0, 0, 0)
+                kind(1, 2, 3, 4) = 7
+                save() = 0
+                undo() = 7
+                kind(6, 6, 6, 6) = 7
+                restore() = 0
+                glueOf(7, 0, 0) = 1
+                glueOf(7, 0, 3) = 4
+                """);
         edges.edge("Promise 37", "Returns the number of bricks.", "none, one, all", """
                 save() = 0
                 kind(1, 1, 1, 1) = 0
@@ -510,7 +566,8 @@ public final class EdgesOfAccountsTest {
     }
 
     private void restore() {
-        edges.edge("Promise 38", "Restores what was saved; the snapshot is kept.", "again and again, whatever comes between", FULL + """
+        edges.edge("Promise 38", "Restores what was saved; the snapshot is kept.",
+                "again and again, whatever comes between", FULL + """
                 save() = 42
                 takeOut(41) = 0
                 restore() = 42

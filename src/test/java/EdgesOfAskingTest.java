@@ -64,7 +64,8 @@ public final class EdgesOfAskingTest {
                 lay(17, 0, 0) = 0
                 lay(18, 0, 0) = 1
                 takeOut(18) = 0
-                """ + question.formatted("17") + "\n" + question.formatted("16|18|10|24") + " throws NoSuchElementException");
+                """ + question.formatted("17") + "\n" + question.formatted("16|18|10|24")
+                + " throws NoSuchElementException");
     }
 
     private void glueOf() {
@@ -198,7 +199,8 @@ public final class EdgesOfAskingTest {
     }
 
     private void holdAgain() {
-        String again = "Returns the same by a second way: what all bricks have of hold together, less what they would have without this one, divided by 2.";
+        String again = "Returns the same by a second way: what all bricks have of hold together, less what they "
+                + "would have without this one, divided by 2.";
         edges.edge("Promise 13", again, "none, one side and four", CROSS + """
                 strength(1, 3) = 1
                 holdAgain(17) = 12
@@ -271,11 +273,13 @@ public final class EdgesOfAskingTest {
                 wouldHold(0, 7, 0) = 0
                 wouldHold(0, -1|8|MIN|MAX, 0) throws IndexOutOfBoundsException
                 """);
-        edges.edge("Promise 14", "Throws `IllegalArgumentException` if the turn is not from 0 to 3", "below and above", EASY + """
+        edges.edge("Promise 14", "Throws `IllegalArgumentException` if the turn is not from 0 to 3",
+                "below and above", EASY + """
                 wouldHold(0, 0, 0|3) = 0
                 wouldHold(0, 0, -1|4|MIN|MAX) throws IllegalArgumentException
                 """);
-        edges.edge("Promise 14", "Throws `NoSuchElementException` if the place has a brick", "the first place and the last", FULL + """
+        edges.edge("Promise 14", "Throws `NoSuchElementException` if the place has a brick",
+                "the first place and the last", FULL + """
                 wouldHold(0|41, 0, 0|3) throws NoSuchElementException
                 takeOut(41) = 0
                 wouldHold(41, 0, 0|3) = 2
@@ -283,7 +287,8 @@ public final class EdgesOfAskingTest {
     }
 
     private void stands() {
-        edges.edge("Promise 15", "Returns whether a brick stands.", "the seed without any hold, and the first and the last place", """
+        edges.edge("Promise 15", "Returns whether a brick stands.",
+                "the seed without any hold, and the first and the last place", """
                 kind(0, 0, 0, 0) = 0
                 lay(0, 0, 0) = 0
                 stands(0) = true
@@ -387,7 +392,8 @@ public final class EdgesOfAskingTest {
         edges.edge("Promise 18", "Returns how many errors there are: pair by pair.", "each pair once", errs() + """
                 errors() = 2
                 """);
-        edges.edge("Promise 18", "Returns how many.", "at the end of a row and the start of the next there is none", EASY + """
+        edges.edge("Promise 18", "Returns how many.",
+                "at the end of a row and the start of the next there is none", EASY + """
                 kind(1, 2, 2, 2) = 1
                 lay(6, 0, 0) = 0
                 lay(13, 1, 0) = 1
@@ -421,7 +427,8 @@ public final class EdgesOfAskingTest {
     }
 
     private void nextPlace() {
-        edges.edge("Promise 20", "Returns the place at which the next brick grows.", "the first place and the last", EASY + """
+        edges.edge("Promise 20", "Returns the place at which the next brick grows.",
+                "the first place and the last", EASY + """
                 lay(1, 0, 0) = 0
                 nextPlace() = 0
                 grow(40) = 40
@@ -454,6 +461,13 @@ public final class EdgesOfAskingTest {
                 lay(17, 0, 3) = 0
                 nextBrick() = 0
                 """);
+        edges.edge("Promise 21", brick, "only at the first place", """
+                kind(1, 0, 0, 0) = 0
+                need(1) = 2
+                lay(1, 0, 3) = 0
+                nextPlace() = 0
+                nextBrick() = 1
+                """);
         edges.edge("Promise 21", "Returns the number.", "the last kind, turned thrice", """
                 7 times kind(2, 2, 2, 2)
                 kind(1, 0, 0, 0) = 7
@@ -478,7 +492,8 @@ public final class EdgesOfAskingTest {
     }
 
     private void choices() {
-        String choices = "Returns how many bricks, by kinds and turns, could be laid at a free place without making an error.";
+        String choices = "Returns how many bricks, by kinds and turns, could be laid at a free place without making "
+                + "an error.";
         edges.edge("Promise 22", choices, "no kinds, no bricks, no neighbours, all", """
                 choices(0|41) = 0
                 8 times kind(1, 1, 1, 1)
@@ -523,7 +538,8 @@ public final class EdgesOfAskingTest {
                 grow(42) = 41
                 choices(-1|42|MIN|MAX) throws IndexOutOfBoundsException
                 """);
-        edges.edge("Promise 22", "Throws `NoSuchElementException` if it has a brick", "the first place and the last", FULL + """
+        edges.edge("Promise 22", "Throws `NoSuchElementException` if it has a brick",
+                "the first place and the last", FULL + """
                 choices(0|41) throws NoSuchElementException
                 takeOut(41) = 0
                 choices(41) = 4

@@ -15,6 +15,7 @@ public final class EdgesOfMakingTest {
     public static void main(String[] args) {
         EdgesOfMakingTest test = new EdgesOfMakingTest();
         test.reasons();
+        test.reasonsOfBricks();
         test.firstReason();
         test.firstReasonOfText();
         test.detailsOfReasons();
@@ -27,6 +28,7 @@ public final class EdgesOfMakingTest {
         test.layRefused();
         test.takeOut();
         test.grow();
+        test.growRefused();
         test.strength();
         test.need();
         test.edges.end("Reasons", "Exceptions", "Promise 1", "Promise 2", "Promise 3", "Promise 4", "Promise 5", "Promise 6",
@@ -68,6 +70,9 @@ public final class EdgesOfMakingTest {
                 lay(41, 0, 3) = 0
                 lay(41, 7, 0) refused 4 0 0
                 """);
+    }
+
+    private void reasonsOfBricks() {
         edges.edge("Reasons", "5, the hold is too little: how much is missing;", "one to all six", """
                 kind(1, 1, 1, 1) = 0
                 lay(17, 0, 0) = 0
@@ -81,7 +86,8 @@ public final class EdgesOfMakingTest {
                 takeOut(0) refused 6 0 0
                 takeOut(41) refused 6 41 0
                 """);
-        edges.edge("Reasons", "7, other bricks that stand would not stand any more: how many;", "one, and all others of a full wall",
+        edges.edge("Reasons", "7, other bricks that stand would not stand any more: how many;",
+                "one, and all others of a full wall",
                 FULL + """
                 takeOut(0) refused 7 41 0
                 takeOut(41) = 0
@@ -107,7 +113,8 @@ public final class EdgesOfMakingTest {
     }
 
     private void firstReason() {
-        String first = "Something is refused for the first that applies of the reasons that its method names, in the order in which it names them:";
+        String first = "Something is refused for the first that applies of the reasons that its method names, in the "
+                + "order in which it names them:";
         edges.edge("Reasons", first, "kind: 1 before 2", """
                 8 times kind(0, 0, 0, 0)
                 kind(0, 0, 0, 7) refused 1 0 0
@@ -132,7 +139,8 @@ public final class EdgesOfMakingTest {
     }
 
     private void firstReasonOfText() {
-        String first = "Something is refused for the first that applies of the reasons that its method names, in the order in which it names them:";
+        String first = "Something is refused for the first that applies of the reasons that its method names, in the "
+                + "order in which it names them:";
         edges.edge("Reasons", first, "the same in texts", EASY + """
                 lay(17, 0, 0) = 0
                 text "l42:9" refused 1 0 0
@@ -217,7 +225,8 @@ public final class EdgesOfMakingTest {
                 reason(3) throws IllegalArgumentException
                 account(9) = 2
                 """);
-        edges.edge("Exceptions", "A call that throws an exception leaves the state unchanged,", "undo and restore of nothing", """
+        edges.edge("Exceptions", "A call that throws an exception leaves the state unchanged,",
+                "undo and restore of nothing", """
                 undo() throws IllegalStateException
                 restore() throws IllegalStateException
                 """);
@@ -232,7 +241,8 @@ public final class EdgesOfMakingTest {
     }
 
     private void firstException() {
-        String first = "If several conditions of a method are fulfilled, the one that is listed first determines the exception.";
+        String first = "If several conditions of a method are fulfilled, the one that is listed first determines the "
+                + "exception.";
         edges.edge("Exceptions", first, "glueOf: the kind before the turn and the side", """
                 glueOf(0, 4, 4) throws IndexOutOfBoundsException
                 kind(0, 0, 0, 0) = 0
@@ -420,7 +430,8 @@ public final class EdgesOfMakingTest {
                 account(5) = 2
                 brickAt(0|41, false) throws NoSuchElementException
                 """);
-        edges.edge("Promise 4", "If it is the seed, there is none then.", "the only brick, and one beside bricks that have fallen", EASY + """
+        edges.edge("Promise 4", "If it is the seed, there is none then.",
+                "the only brick, and one beside bricks that have fallen", EASY + """
                 lay(0, 0, 0) = 0
                 takeOut(0) = 0
                 seed() throws NoSuchElementException
@@ -503,7 +514,8 @@ public final class EdgesOfMakingTest {
                 grow(0|43|-1|MIN|MAX) refused 1 0 0
                 account(1) = 1
                 """);
-        edges.edge("Promise 5", "Returns how many are laid.", "just as many as there are places, one less, one more", EASY + """
+        edges.edge("Promise 5", "Returns how many are laid.",
+                "just as many as there are places, one less, one more", EASY + """
                 lay(17, 0, 0) = 0
                 grow(41) = 41
                 undo() = 3
@@ -513,6 +525,9 @@ public final class EdgesOfMakingTest {
                 account(3) = 42
                 account(4) = 41
                 """);
+    }
+
+    private void growRefused() {
         String refused = "if it is refused for the reason 1, or 8, if it is stalled at once; the reason is kept";
         edges.edge("Promise 5", refused, "no kinds, no bricks, a full wall", """
                 grow(1|42) refused 8 0 0

@@ -13,8 +13,11 @@ public final class EdgesOfTermsTest {
         test.calls();
         test.divisions();
         test.glues();
+        test.sidesHold();
         test.kinds();
+        test.sidesOfKinds();
         test.wall();
+        test.placesOfBricks();
         test.seed();
         test.hold();
         test.need();
@@ -22,7 +25,9 @@ public final class EdgesOfTermsTest {
         test.standing();
         test.growing();
         test.growingPlaces();
+        test.growingPlacesOfKinds();
         test.growingBricks();
+        test.growingKindsAndTurns();
         test.stalled();
         test.stuck();
         test.details();
@@ -46,7 +51,8 @@ public final class EdgesOfTermsTest {
                 strength(1, 1) = 0
                 stands(18) = true
                 """);
-        edges.edge("Terms", "Divisions are rounded down, unless something else is told.", "an odd hold, and a mean", EASY + """
+        edges.edge("Terms", "Divisions are rounded down, unless something else is told.",
+                "an odd hold, and a mean", EASY + """
                 lay(17, 0, 0) = 0
                 lay(18, 0, 0) = 1
                 lay(16, 0, 0) = 1
@@ -91,7 +97,11 @@ public final class EdgesOfTermsTest {
                 wouldHold(18, 0|1, 0) = 0
                 lay(18, 0|1, 0) refused 5 1 0
                 """);
-        String sides = "Two sides hold each other by the strength of their glue, if both have the same one, and by nothing otherwise.";
+    }
+
+    private void sidesHold() {
+        String sides = "Two sides hold each other by the strength of their glue, if both have the same one, and by "
+                + "nothing otherwise.";
         edges.edge("Glues", sides, "the glue 1 with each strength", """
                 kind(1, 1, 1, 1) = 0
                 lay(17, 0, 0) = 0
@@ -147,7 +157,11 @@ public final class EdgesOfTermsTest {
                 kind(4, 4, 4, 4) = 7
                 kind(4, 4, 4, 4) refused 2 8 0
                 """);
-        String sides = "each with a glue from 0 to 6 for its sides above, to the right, below and to the left, numbered from 0 to 3";
+    }
+
+    private void sidesOfKinds() {
+        String sides = "each with a glue from 0 to 6 for its sides above, to the right, below and to the left, "
+                + "numbered from 0 to 3";
         edges.edge("Kinds", sides, "the least and the most glue on each side", """
                 kind(0, 6, 0, 6) = 0
                 kind(6, 0, 6, 0) = 1
@@ -171,7 +185,8 @@ public final class EdgesOfTermsTest {
                 glueOf(0, 0, 3) = 4
                 glueOf(0, 0, -1|4|MIN|MAX) throws IllegalArgumentException
                 """);
-        String turned = "A brick can be turned by quarters to the right: turned once, its side above is to the right, and so on.";
+        String turned = "A brick can be turned by quarters to the right: turned once, its side above is to the "
+                + "right, and so on.";
         edges.edge("Kinds", turned, "once: the left side comes above", """
                 kind(1, 2, 3, 4) = 0
                 glueOf(0, 1, 0) = 4
@@ -251,6 +266,9 @@ public final class EdgesOfTermsTest {
                 wouldHold(40|34, 0, 0) = 1
                 wouldHold(0|6|35|33, 0, 0) = 0
                 """);
+    }
+
+    private void placesOfBricks() {
         String brick = "A place is free, or has a brick of a kind, turned by 0 to 3 quarters.";
         edges.edge("Wall", brick, "free at first and after a brick is taken out", """
                 kind(1, 1, 1, 1) = 0
@@ -336,7 +354,8 @@ public final class EdgesOfTermsTest {
     }
 
     private void hold() {
-        String together = "The hold of a brick at a place is by how much its sides hold those of the neighbours that it has there, together.";
+        String together = "The hold of a brick at a place is by how much its sides hold those of the neighbours that "
+                + "it has there, together.";
         edges.edge("Hold", together, "no neighbours, one and four, with the most strength", EASY + """
                 strength(1, 3) = 1
                 lay(17, 0, 0) = 0
@@ -402,7 +421,8 @@ public final class EdgesOfTermsTest {
     }
 
     private void errors() {
-        String error = "An error is a pair of neighbours whose sides towards each other are unlike, and neither of them is the glue 0.";
+        String error = "An error is a pair of neighbours whose sides towards each other are unlike, and neither of "
+                + "them is the glue 0.";
         String around = """
                 lay(17, 0, 0) = 0
                 lay(18|24, 0, 0) = 1
@@ -429,6 +449,20 @@ public final class EdgesOfTermsTest {
                 lay(25, 1, 0) = 2
                 errors() = 0
                 """);
+        edges.edge("Hold", error, "in the first place and in the last", EASY + """
+                kind(0, 1, 3, 0) = 1
+                kind(3, 0, 0, 1) = 2
+                lay(8, 0, 0) = 0
+                lay(1|7, 0, 0) = 1
+                lay(0, 1, 0) = 1
+                errors() = 1
+                errorsAt(0|7) = 1
+                grow(42) = 38
+                takeOut(41) = 0
+                lay(41, 2, 0) = 1
+                errors() = 2
+                errorsAt(34|41) = 1
+                """);
         edges.edge("Hold", error, "bricks that are no neighbours", EASY + "kind(2, 2, 2, 1) = 1\n" + """
                 lay(0, 0, 0) = 0
                 lay(1, 1, 0) = 1
@@ -438,7 +472,8 @@ public final class EdgesOfTermsTest {
     }
 
     private void standing() {
-        String stands = "A brick stands if it is the seed, or can be come to from the seed from neighbour to neighbour, each time over two sides that hold each other by 1 or more.";
+        String stands = "A brick stands if it is the seed, or can be come to from the seed from neighbour to "
+                + "neighbour, each time over two sides that hold each other by 1 or more.";
         edges.edge("Standing", stands, "the seed alone", """
                 kind(0, 0, 0, 0) = 0
                 lay(0, 0, 0) = 0
@@ -514,13 +549,19 @@ public final class EdgesOfTermsTest {
     }
 
     private void growingPlaces() {
-        String place = "In a step of growing, the lowest free place is looked for at which some kind can be laid, without making an error, in some turn;";
+        String place = "In a step of growing, the lowest free place is looked for at which some kind can be laid, "
+                + "without making an error, in some turn;";
         edges.edge("Growing", place, "the first place", EASY + """
                 lay(1, 0, 0) = 0
                 nextPlace() = 0
                 grow(1) = 1
                 brickAt(0, false) = 0
                 nextPlace() = 2
+                """);
+        edges.edge("Growing", place, "the first place, when a step has opened it", EASY + """
+                lay(8, 0, 0) = 0
+                grow(2) = 2
+                brickAt(0|1, false) = 0
                 """);
         edges.edge("Growing", place, "the last place", EASY + """
                 lay(0, 0, 0) = 0
@@ -537,6 +578,11 @@ public final class EdgesOfTermsTest {
                 lay(3, 0, 0) = 1
                 nextPlace() = 2
                 """);
+    }
+
+    private void growingPlacesOfKinds() {
+        String place = "In a step of growing, the lowest free place is looked for at which some kind can be laid, "
+                + "without making an error, in some turn;";
         edges.edge("Growing", place, "not where a brick would only hold by making an error", EASY + """
                 kind(2, 3, 3, 1) = 1
                 lay(0, 0, 0) = 0
@@ -625,6 +671,9 @@ public final class EdgesOfTermsTest {
                 nextPlace() = 8
                 nextBrick() = 10
                 """);
+    }
+
+    private void growingKindsAndTurns() {
         String lowest = "of several the one of the lowest kind,";
         edges.edge("Growing", lowest, "although a higher one is turned less", """
                 kind(2, 2, 2, 2) = 0
@@ -706,6 +755,9 @@ public final class EdgesOfTermsTest {
                 lay(41, 0, 0) = 0
                 stuck() = 2
                 takeOut(41) = 0
+                lay(1, 0, 0) = 0
+                stuck() = 3
+                takeOut(1) = 0
                 lay(3, 0, 0) = 0
                 stuck() = 3
                 takeOut(3) = 0
@@ -730,8 +782,7 @@ public final class EdgesOfTermsTest {
     }
 
     private void details() {
-        edges.edge("Details", "A brick that lay lays beside bricks while there is no seed is the seed, too, and its hold is told as 0 by lay.",
-                "with the most strength", EASY + """
+        edges.edge("Details", "and its hold is told as 0 by lay.", "with the most strength", EASY + """
                 lay(0, 0, 0) = 0
                 lay(1, 0, 0) = 1
                 strength(1, 0) = 1
@@ -742,7 +793,8 @@ public final class EdgesOfTermsTest {
                 hold(2) = 3
                 stands(1) = true
                 """);
-        edges.edge("Details", "A brick that lay lays beside bricks while there is no seed is the seed, too,", "by its command", EASY + """
+        edges.edge("Details", "A brick that lay lays beside bricks while there is no seed is the seed, too,",
+                "by its command", EASY + """
                 lay(0, 0, 0) = 0
                 lay(1, 0, 0) = 1
                 strength(1, 0) = 1
@@ -750,7 +802,8 @@ public final class EdgesOfTermsTest {
                 seed() = 0
                 hold(0) = 3
                 """);
-        edges.edge("Details", "Turns of a kind that look alike count one by one.", "all four, two by two, and none", EASY + """
+        edges.edge("Details", "Turns of a kind that look alike count one by one.",
+                "all four, two by two, and none", EASY + """
                 kind(1, 0, 1, 0) = 1
                 kind(2, 2, 2, 2) = 2
                 lay(0, 0, 0) = 0

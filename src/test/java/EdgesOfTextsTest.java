@@ -84,7 +84,8 @@ public final class EdgesOfTextsTest {
     }
 
     private void layCommand() {
-        String lay = "\"l\", a place, \":\" and a kind, and for each quarter by which it is turned \"*\", at most three, lays a brick;";
+        String lay = "\"l\", a place, \":\" and a kind, and for each quarter by which it is turned \"*\", at most "
+                + "three, lays a brick;";
         edges.edge("Texts", lay, "none to three quarters", SEEDED + """
                 text "l16:0" = 1
                 text "l18:0*" = 1
@@ -391,7 +392,8 @@ public final class EdgesOfTextsTest {
                 commands() throws IllegalArgumentException
                 append(110) = 1
                 """);
-        edges.edge("Promise 27", "Throws `IllegalStateException` if the buffer contains 60 characters", "the sixty-first", """
+        edges.edge("Promise 27", "Throws `IllegalStateException` if the buffer contains 60 characters",
+                "the sixty-first", """
                 type "%s"
                 append(59) throws IllegalStateException
                 append(0|65535) throws IllegalStateException
@@ -407,7 +409,8 @@ public final class EdgesOfTextsTest {
     }
 
     private void commands() {
-        String one = "Carries out the commands in the text buffer, one after the other; if one is refused, none is carried out.";
+        String one = "Carries out the commands in the text buffer, one after the other; if one is refused, none is "
+                + "carried out.";
         edges.edge("Promise 28", one, "a later one is refused", SEEDED + """
                 text "n2;s13;k0000;n2" refused 9 0 3
                 account(0|1|2) = 1
@@ -538,7 +541,8 @@ public final class EdgesOfTextsTest {
                 need(2) refused 9 0 0
                 reason(-1|3|MIN|MAX) throws IllegalArgumentException
                 """);
-        edges.edge("Promise 30", "Throws `NoSuchElementException` if nothing was refused", "at first, after a success, after a fault", """
+        edges.edge("Promise 30", "Throws `NoSuchElementException` if nothing was refused",
+                "at first, after a success, after a fault", """
                 reason(0|1|2) throws NoSuchElementException
                 need(3) = 2
                 reason(0|1|2) throws NoSuchElementException
@@ -565,7 +569,8 @@ public final class EdgesOfTextsTest {
                 character(7) throws IndexOutOfBoundsException
                 line(2) shows ..0***0...
                 """);
-        String place = "for each place \".\" if it is free, or the kind of its brick and for each quarter by which it is turned \"*\";";
+        String place = "for each place \".\" if it is free, or the kind of its brick and for each quarter by which "
+                + "it is turned \"*\";";
         edges.edge("Promise 31", place, "the first and the last place", """
                 7 times kind(1, 1, 1, 1)
                 kind(1, 1, 1, 1) = 7
@@ -643,7 +648,8 @@ public final class EdgesOfTextsTest {
                 character(6) = .
                 character(-1|7|27|28|MIN|MAX) throws IndexOutOfBoundsException
                 """);
-        edges.edge("Promise 32", "Throws `IndexOutOfBoundsException` if there is no such index", "undo and restore leave the line", SEEDED + """
+        edges.edge("Promise 32", "Throws `IndexOutOfBoundsException` if there is no such index",
+                "undo and restore leave the line", SEEDED + """
                 save() = 1
                 line(2) shows ...0...
                 undo() = 2
