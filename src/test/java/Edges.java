@@ -1,6 +1,7 @@
-import java.util.HashSet;
+import java.util.Arrays;
+import java.util.HashMap;
 import java.util.List;
-import java.util.Set;
+import java.util.Map;
 import java.util.function.Consumer;
 
 /**
@@ -11,14 +12,18 @@ import java.util.function.Consumer;
 final class Edges {
     private final Check check = new Check();
     private final Document document = new Document();
-    private final Set<String> named = new HashSet<>();
+    /** Of each sentence, behind what it stands under, the signs that a test has named. */
+    private final Map<String, boolean[]> named = new HashMap<>();
 
     /** One test: the heading, the words of the sentence, which of its edges, and the run. */
     void edge(String heading, String sentence, String which, String run) {
         String name = heading + " \"" + sentence + "\", " + which;
         List<String> found = document.sentencesWith(heading, sentence);
         check.same(name + ": the document has the sentence", false, found.isEmpty());
-        named.addAll(found);
+        for (String whole : found) {
+            boolean[] signs = named.computeIfAbsent(heading + whole, key -> new boolean[whole.length()]);
+            Arrays.fill(signs, whole.indexOf(sentence), whole.indexOf(sentence) + sentence.length(), true);
+        }
         List<Step> steps = Step.of(run);
         GluedWall wall = new GluedWall();
         for (int at = 0; at < steps.size(); at++) {
@@ -35,14 +40,24 @@ final class Edges {
         }
     }
 
-    /** Every sentence under these headings has been named. */
+    /** Every sentence under these headings has been named, word for word. */
     void end(String... headings) {
         for (String heading : headings) {
             for (String sentence : document.sentencesOf(heading)) {
-                check.same("an edge for: " + heading + " \"" + sentence + "\"", true, named.contains(sentence));
+                check.same(heading + " \"" + sentence + "\" has no edge for", "", unnamed(heading, sentence));
             }
         }
         check.end();
+    }
+
+    /** The words of a sentence that no test has named, but for the exception or the parameter that it begins with. */
+    private String unnamed(String heading, String sentence) {
+        boolean[] signs = named.getOrDefault(heading + sentence, new boolean[sentence.length()]);
+        StringBuilder rest = new StringBuilder();
+        for (int at = 0; at < signs.length; at++) {
+            rest.append(signs[at] ? ' ' : sentence.charAt(at));
+        }
+        return rest.toString().replaceFirst("^Throws `\\w+` |^- `\\w+`: ", "").replaceAll("\\W+", " ").strip();
     }
 
     /** Commands empty the buffer and tell a fault position, a refusal a reason: those are told by the run itself. */

@@ -10,6 +10,7 @@ public final class EdgesOfTermsTest {
 
     public static void main(String[] args) {
         EdgesOfTermsTest test = new EdgesOfTermsTest();
+        test.whatItIs();
         test.calls();
         test.divisions();
         test.glues();
@@ -31,7 +32,45 @@ public final class EdgesOfTermsTest {
         test.stalled();
         test.stuck();
         test.details();
-        test.edges.end("Terms", "Glues", "Kinds", "Wall", "Hold", "Standing", "Growing", "Details");
+        test.edges.end("What it is", "Terms", "Glues", "Kinds", "Wall", "Hold", "Standing", "Growing", "Details");
+    }
+
+    private void whatItIs() {
+        edges.edge("What it is", "A wall of bricks that hold by glue: kinds of bricks with glues on their sides, strengths "
+                + "of glues, a seed, bricks that are laid where enough glue holds them, turned or not, bricks that come by "
+                + "themselves in the order of places, stalled places,", "one of each", """
+                kind(0, 1, 0, 0) = 0
+                strength(1, 2) = 1
+                lay(17, 0, 0) = 0
+                seed() = 17
+                lay(16, 0, 0) refused 5 2 0
+                lay(18, 0, 2) = 2
+                stuck() = 6
+                grow(1) refused 8 6 0
+                kind(0, 0, 1, 1) = 1
+                lay(16, 1, 3) refused 5 2 0
+                takeOut(18) = 0
+                grow(3) = 1
+                line(2) shows ...00**..
+                """);
+        edges.edge("What it is", "errors that are found by the glues of neighbours, bricks that can be taken out without "
+                + "others falling, holds in two ways, walls row by row, commands as texts with faults by place, reasons "
+                + "with details, a line, accounts, undo, and a snapshot.", "one of each", """
+                text "k1112;k1003;n1;l17:0;l18:0**;l24:0" = 6
+                lay(25, 1, 0) = 1
+                errors() = 1
+                takeOut(18) refused 7 1 0
+                save() = 4
+                takeOut(24) = 0
+                hold(17) = 1
+                holdAgain(17) = 1
+                line(3) shows ....1..
+                text "t25;x" fault 4
+                account(5) = 1
+                undo() = 2
+                account(5) = 0
+                restore() = 4
+                """);
     }
 
     private void calls() {
@@ -39,6 +78,21 @@ public final class EdgesOfTermsTest {
                 510 times fallen() = 0
                 need(6) = 2
                 account(2) = 6
+                """);
+        edges.edge("What it is", "what later calls answer is free.", "they end, and throw nothing by themselves", """
+                512 times fallen() = 0
+                kind(1, 1, 1, 1)
+                need(1)
+                lay(41, 0, 3)
+                grow(42)
+                growsTo()
+                line(0)
+                text "t0;g1;s13"
+                weakest(41)
+                undo()
+                save()
+                restore()
+                600 times strengthOf(1)
                 """);
     }
 
@@ -161,7 +215,7 @@ public final class EdgesOfTermsTest {
 
     private void sidesOfKinds() {
         String sides = "each with a glue from 0 to 6 for its sides above, to the right, below and to the left, "
-                + "numbered from 0 to 3";
+                + "numbered from 0 to 3 in this order.";
         edges.edge("Kinds", sides, "the least and the most glue on each side", """
                 kind(0, 6, 0, 6) = 0
                 kind(6, 0, 6, 0) = 1
