@@ -1,4 +1,3 @@
-import com.sun.source.tree.AssertTree;
 import com.sun.source.tree.BinaryTree;
 import com.sun.source.tree.BlockTree;
 import com.sun.source.tree.ClassTree;
@@ -7,18 +6,13 @@ import com.sun.source.tree.ExpressionTree;
 import com.sun.source.tree.ForLoopTree;
 import com.sun.source.tree.IdentifierTree;
 import com.sun.source.tree.ImportTree;
-import com.sun.source.tree.InstanceOfTree;
-import com.sun.source.tree.LambdaExpressionTree;
 import com.sun.source.tree.LiteralTree;
-import com.sun.source.tree.MemberReferenceTree;
 import com.sun.source.tree.MethodInvocationTree;
 import com.sun.source.tree.MethodTree;
 import com.sun.source.tree.NewArrayTree;
 import com.sun.source.tree.NewClassTree;
-import com.sun.source.tree.SynchronizedTree;
 import com.sun.source.tree.ThrowTree;
 import com.sun.source.tree.Tree;
-import com.sun.source.tree.TryTree;
 import com.sun.source.tree.TypeCastTree;
 import com.sun.source.tree.VariableTree;
 import com.sun.source.tree.WhileLoopTree;
@@ -61,6 +55,10 @@ public final class LanguageTest extends TreePathScanner<Void, Void> {
     private static final Set<String> EXCEPTIONS = Set.of("IllegalStateException", "IllegalArgumentException",
             "IndexOutOfBoundsException", "ArithmeticException", "UnsupportedOperationException", "NoSuchElementException",
             "RuntimeException");
+
+    /** What the class does without, by the rule that tells of it. */
+    private static final Map<Tree.Kind, Integer> WITHOUT = Map.of(Tree.Kind.TRY, 6, Tree.Kind.SYNCHRONIZED, 6,
+            Tree.Kind.ASSERT, 6, Tree.Kind.INSTANCE_OF, 6, Tree.Kind.LAMBDA_EXPRESSION, 2, Tree.Kind.MEMBER_REFERENCE, 2);
 
     private final Check check = new Check();
     private final Trees trees;
@@ -125,6 +123,14 @@ public final class LanguageTest extends TreePathScanner<Void, Void> {
         }
         open.remove(method);
         return deepest + 1;
+    }
+
+    @Override
+    public Void scan(Tree node, Void none) {
+        if (node != null && WITHOUT.containsKey(node.getKind())) {
+            rule(WITHOUT.get(node.getKind()), node, false);
+        }
+        return super.scan(node, none);
     }
 
     @Override
@@ -268,42 +274,6 @@ public final class LanguageTest extends TreePathScanner<Void, Void> {
     public Void visitWhileLoop(WhileLoopTree node, Void none) {
         rule(9, node, hasBound(node.getCondition()));
         return super.visitWhileLoop(node, none);
-    }
-
-    @Override
-    public Void visitTry(TryTree node, Void none) {
-        rule(6, node, false);
-        return super.visitTry(node, none);
-    }
-
-    @Override
-    public Void visitSynchronized(SynchronizedTree node, Void none) {
-        rule(6, node, false);
-        return super.visitSynchronized(node, none);
-    }
-
-    @Override
-    public Void visitAssert(AssertTree node, Void none) {
-        rule(6, node, false);
-        return super.visitAssert(node, none);
-    }
-
-    @Override
-    public Void visitInstanceOf(InstanceOfTree node, Void none) {
-        rule(6, node, false);
-        return super.visitInstanceOf(node, none);
-    }
-
-    @Override
-    public Void visitLambdaExpression(LambdaExpressionTree node, Void none) {
-        rule(2, node, false);
-        return super.visitLambdaExpression(node, none);
-    }
-
-    @Override
-    public Void visitMemberReference(MemberReferenceTree node, Void none) {
-        rule(2, node, false);
-        return super.visitMemberReference(node, none);
     }
 
     private void rule(int number, Tree node, boolean isKept) {
